@@ -90,9 +90,26 @@ public final class AheadTest {
         CHECK.due("what -1", x.nextFight(-1), -1);
         Check.text(x, "road 60;trough a 60 0 0;horse h 0 60 0 1;horse k 1 0 0 1;lap k a 99;law dry 0;");
         CHECK.due("60 HOURS from HOUR 99 on", x.nextFight(0), 159);
+        lastHourLooked();
         Check.text(x, "horse h 0 6 0 1;horse k 1 0 0 1;law dry 0;");
         CHECK.due("not by then", x.nextFight(0), -2);
         CHECK.due("not by then", x.nextFight(1), -2);
+    }
+
+    /** What comes in the 199th HOUR is told, what comes in the one behind it isn't. */
+    private static void lastHourLooked() {
+        for (int hour = 197; hour <= 200; hour++) {
+            int due = hour + 1 <= 199 ? hour + 1 : -2;
+            // h drinks up to this HOUR, and so they TALK.
+            TroughTreaty x = Check.told("trough a 7 99 9;horse h 0 7 9 1;horse k 1 7 0 1;rain 100;"
+                    + "law gulp (hour < " + hour + ") * (side = 0);law dry side = 0;law fight 0;");
+            CHECK.due("a FIGHT in HOUR " + hour, x.nextFight(0), due);
+            CHECK.due("its PLACE", x.nextFight(1), due == -2 ? -2 : 7);
+            Check.text(x, "trough a 7 1 0;horse h 0 7 9 1;law dry 0;law gulp hour >= " + hour + ";");
+            CHECK.due("no WATER in HOUR " + hour, x.runsDry(0), due);
+            Check.text(x, "horse h 0 7 9 1;law dry 99 * (hour >= " + hour + ");");
+            CHECK.due("it FALLS in HOUR " + hour, x.falls(0), due);
+        }
     }
 
     private static void sendIn() {
@@ -113,6 +130,16 @@ public final class AheadTest {
         CHECK.due("no FIGHTS", x.sendIn(1, 0, 1), 0);
         x.go(3);
         CHECK.due("from now on", x.sendIn(1, 0, 0), 4);
+        x.lead(1, 5);
+        x.go(2);
+        CHECK.due("FIGHTS so far", x.count(6), 2);
+        CHECK.due("FIGHTS so far don't count: HOURS 5 and 6 do", x.sendIn(1, 0, 1), 2);
+        CHECK.due("nor do they if otherwise", x.tried(1, 0, 1), 1);
+        // As it goes there is WATER for HOURS 10 .. 18, and so they TALK.
+        Check.text(x, "road 10;trough p 5 0 9;horse a 0 5 9 1;horse b 1 5 0 1;rain 50;seed 5;law gulp 1;law dry 0;law fight 0;");
+        x.tried(0, 0, 1);
+        CHECK.due("FIGHTS as it goes", x.sendIn(0, 0, 1), 40 - 9);
+        CHECK.due("FIGHTS as it goes", x.ahead(40, 0, 0), 40 - 9);
         Check.text(x, "trough p 5 0 0;horse a 0 5 99 1;");
         x.go(1);
         CHECK.due("FELL", x.sendIn(0, 0, 0), -2);
@@ -130,6 +157,7 @@ public final class AheadTest {
         CHECK.due("n 0", x.pump(0), -1);
         CHECK.due("n 61", x.pump(61), -1);
         CHECK.due("n 60", x.pump(60), 7);
+        CHECK.due("n 1", x.pump(1), 0);
         Check.text(x, "trough a 5 0 0;horse h 0 4 95 1;");
         CHECK.due("by none", x.pump(5), -2);
         CHECK.due("by none needed", x.pump(4), 0);
@@ -202,6 +230,9 @@ public final class AheadTest {
         // The NAME pace is twice as much, too: k has THIRST then, and FALLS by HURT behind two FIGHTS.
         Check.text(x, "trough a 5 0 0;horse h 0 5 0 1;horse k 1 0 0 2;lap k a 0;law dry pace > 3;law fight 50 * (side = 1) * (thirst > 0);");
         CHECK.due("k FALLS", x.tried(4, 0, 20), 2);
+        CHECK.due("the law now is as told", x.law(0, 1), 0);
         CHECK.due("k doesn't FALL", x.ahead(20, 0, 0), 18);
+        Check.text(x, "trough a 11 0 0;horse h 0 11 0 1;horse k 1 0 0 2;lap k a 0;law fight 0;");
+        CHECK.due("twice, not thrice", x.tried(4, 0, 5), 3);
     }
 }

@@ -1,4 +1,6 @@
 import java.nio.charset.StandardCharsets;
+import java.util.ArrayList;
+import java.util.List;
 import java.util.NoSuchElementException;
 
 /** What all tests of the project share: answers that are due, and texts fed as numbers. */
@@ -24,14 +26,22 @@ final class Check {
         System.exit(wrong == 0 && asked > 0 ? 0 : 1);
     }
 
-    /** Feeds a text, blanks behind it up to a whole row of twenty. */
-    static void feed(TroughTreaty x, byte[] bytes) {
+    /** Bytes as numbers for feed(), blanks behind them up to a whole row of twenty. */
+    static List<int[]> rows(byte[] bytes) {
+        List<int[]> rows = new ArrayList<>();
         for (int at = 0; at < bytes.length; at += 20) {
             int[] five = new int[5];
             for (int i = 0; i < 20; i++) {
                 int b = at + i < bytes.length ? bytes[at + i] & 255 : 32;
                 five[i / 4] = five[i / 4] << 8 | b;
             }
+            rows.add(five);
+        }
+        return rows;
+    }
+
+    static void feed(TroughTreaty x, byte[] bytes) {
+        for (int[] five : rows(bytes)) {
             x.feed(five[0], five[1], five[2], five[3], five[4]);
         }
     }

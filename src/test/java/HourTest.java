@@ -145,6 +145,9 @@ public final class HourTest {
         Check.text(x, "trough a 5 3 0;horse k 1 5 0 1;horse h 0 5 4 1;law dry 0;");
         x.go(1);
         CHECK.due("the other one DRANK", x.count(7), 1);
+        Check.text(x, "trough a 0 1 0;horse k 1 0 0 1;horse h 0 0 4 1;law dry 0;");
+        x.go(1);
+        CHECK.due("DRANK 1 at PLACE 0", x.count(7), 1);
         Check.text(x, "trough a 5 9 0;horse k 1 5 5 1;horse h 0 5 4 1;law gulp 0;");
         x.go(1);
         CHECK.due("DRANK nothing", x.count(6), 1);
@@ -285,6 +288,10 @@ public final class HourTest {
         CHECK.due("never met", x.peace(0, 2), 0);
         x.go(1);
         CHECK.due("then they FOUGHT", x.peace(0, 3), 0);
+        x.text(0);
+        Check.text(x, "trough a 5 10 0;horse h 0 5 9 1;horse k 3 5 0 1;law dry 0;");
+        x.go(1);
+        CHECK.due("in this TEXT they never FOUGHT", x.peace(0, 3), 1);
         CHECK.due("alike", x.peace(3, 3), -1);
         CHECK.due("no such SIDE", x.peace(4, 0), -1);
         CHECK.due("no such SIDE", x.peace(0, 4), -1);

@@ -67,6 +67,8 @@ public final class LawTest {
         String million = "1000 * 1000";
         worth(million + " * " + million, 1000000000000L);
         worth("0 - " + million + " * " + million, -1000000000000L);
+        worth(million + " * " + million + " + 0", 1000000000000L);
+        worth("0 - " + million + " * " + million + " - 0", -1000000000000L);
         worth(million + " * " + million + " + 1", ERROR);
         worth("0 - " + million + " * " + million + " - 1", ERROR);
         worth(million + " * " + million + " - 1", 999999999999L);

@@ -47,6 +47,9 @@ public final class RoadTest {
         CHECK.due("nothing to drink at a", x.stops(0, 1), -2);
         x.fill(0, 1);
         CHECK.due("WATER now", x.stops(0, 1), 2);
+        Check.text(x, "road 60;trough a 1 1 0;trough b 0 1 0;trough c 60 1 0;horse h 0 60 40 1;");
+        CHECK.due("THIRST 99 there", x.stops(0, 0), 1);
+        CHECK.due("THIRST 100 there, and so by another one", x.stops(0, 1), 2);
     }
 
     private static void reach() {
@@ -137,6 +140,9 @@ public final class RoadTest {
         // PACE as much as both have who drink, THIRST by 5 as much as PACE by 2.
         Check.text(x, "horse h 0 0 20 8;horse k 2 0 20 8;");
         rests(x, 0, 1, 0, 1, 10, 11);
+        // SIDES 3 and 1 differ by 2.
+        Check.text(x, "horse h 3 0 20 8;horse k 1 0 20 8;");
+        rests(x, 0, 1, 0, 1, 10, 11);
         Check.text(x, "horse h 0 0 20 9;horse k 2 0 20 9;");
         rests(x, 0, 1, 1, 10, 11);
     }
@@ -165,6 +171,8 @@ public final class RoadTest {
         Check.text(x, "trough a 0 99 0;");
         CHECK.due("full", x.driest(), 0);
         CHECK.due("no HORSE", x.nearest(0), -1);
+        Check.text(x, "road 60;trough a 60 99 0;horse h 0 0 0 1;");
+        CHECK.due("nearest, 60 places off", x.nearest(0), 0);
     }
 
     private static void gather() {
@@ -203,6 +211,7 @@ public final class RoadTest {
         CHECK.due("of one that FELL", x.enemies(2), 0);
         CHECK.due("k is of its SIDE", x.sides(), 11);
         Check.text(x, "horse h 3 5 99 1;horse k 0 5 0 1;");
+        CHECK.due("sides", x.sides(), 9);
         x.go(1);
         CHECK.due("sides", x.sides(), 1);
         x.go(100);

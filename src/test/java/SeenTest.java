@@ -57,7 +57,7 @@ public final class SeenTest {
         CHECK.due("STRUCK twice", x.strike(0), 5);
         CHECK.due("of the second", x.strike(1), 6);
         CHECK.due("none", x.thirsts(0), 1023);
-        CHECK.due("itself", x.strike(7), -1);
+        CHECK.due("what isn't SEEN yet", x.strike(7), -1);
         CHECK.due("below 0", x.strike(-1), -1);
     }
 

@@ -72,7 +72,13 @@ public final class TapeTest {
 
     private static void resets() {
         String text = "trough a 0 50 5;horse h 0 0 20 1;horse k 1 0 0 1;lap h a 0;rain 100;";
-        TroughTreaty x = Check.told(text);
+        TroughTreaty x = Check.told("road 9;rain 60;seed 99;law dry 1 + 1;law gulp 2;");
+        CHECK.due("anew: LINES", Check.text(x, "trough a 0 0 9;law dry 3;"), 2);
+        CHECK.due("anew: LENGTH", x.count(3), 20);
+        CHECK.due("anew: KNOTS", x.count(4), 1);
+        CHECK.due("anew: rain", x.staysDry(1, 0), 1);
+        CHECK.due("anew: rain as it goes", x.ahead(10, 3, 0), 0);
+        Check.text(x, text);
         x.keep();
         x.see(1, 0, 5, true);
         x.see(1, 0, 5, true);

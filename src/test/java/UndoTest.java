@@ -8,6 +8,7 @@ public final class UndoTest {
         twentyAtMost();
         hoursGoBy();
         images();
+        imagesAndPeace();
         imagesAndSeen();
         CHECK.end();
     }
@@ -61,10 +62,31 @@ public final class UndoTest {
             CHECK.due("undo", x.undo(), i);
         }
         // The deeds of i 0 .. 14 stay.
+        mixed();
         CHECK.due("PLACE", x.horse(0, 1), 12);
         CHECK.due("GOAL", x.horse(0, 4), 0);
         CHECK.due("PLACE", x.horse(2, 1), 14);
         CHECK.due("GOAL", x.horse(2, 4), 0);
+    }
+
+    /** Deeds of both kinds, more than can be undone, at HORSES and TROUGHS by turns. */
+    private static void mixed() {
+        TroughTreaty x = Check.told(TEXT);
+        for (int i = 0; i < 26; i++) {
+            if (i % 3 == 0) {
+                x.fill(i % 2, 1);
+            } else {
+                x.lead(i % 3, i % 20);
+            }
+        }
+        while (x.undo() > 0) {
+            continue;
+        }
+        // i 0 .. 5 stay: fill(0), lead(1, 1), lead(2, 2), fill(1), lead(1, 4), lead(2, 5).
+        int[] wanted = {x.trough(0, 1), 21, x.trough(1, 1), 51, x.horse(0, 1), 5, x.horse(1, 1), 4, x.horse(2, 1), 5};
+        for (int i = 0; i < wanted.length; i += 2) {
+            CHECK.due("what stays " + i / 2, wanted[i], wanted[i + 1]);
+        }
     }
 
     private static void hoursGoBy() {
@@ -95,6 +117,10 @@ public final class UndoTest {
         CHECK.due("all is as it was", standing(x), before);
         CHECK.due("nothing to undo", x.undo(), -1);
         x.fill(0, 5);
+        x.back();
+        CHECK.due("nothing to undo", x.count(13), 0);
+        CHECK.due("all is as it was", standing(x), before);
+        x.fill(0, 5);
         x.go(100);
         CHECK.due("the numbers, too", standing(x), later);
         CHECK.due("again", x.back(), 15);
@@ -107,6 +133,18 @@ public final class UndoTest {
         CHECK.due("a FAULT leaves it", x.back(), 18);
         Check.text(x, TEXT);
         CHECK.due("a new TEXT doesn't", x.back(), -1);
+    }
+
+    /** They TALK in HOUR 0 and FIGHT in HOUR 1. */
+    private static void imagesAndPeace() {
+        TroughTreaty x = Check.told("trough a 5 9 0;horse h 0 5 9 1;horse k 1 5 0 1;law dry 0;");
+        x.go(1);
+        x.keep();
+        x.go(1);
+        CHECK.due("no peace", x.peace(0, 1), 0);
+        x.back();
+        CHECK.due("peace", x.peace(0, 1), 1);
+        CHECK.due("DRANK", x.horse(0, 7), 9);
     }
 
     private static long standing(TroughTreaty x) {
