@@ -44,6 +44,13 @@ public final class RainTest {
     }
 
     private static void numbers() {
+        TroughTreaty without = Check.told("trough a 0 0 1;trough b 1 0 1;trough c 2 0 1;rain 30;seed 7;");
+        Check.text(without, "trough a 0 0 1;trough b 1 0 1;trough c 2 0 1;rain 30;");
+        state = 0;
+        without.go(10);
+        for (int trough = 0; trough < 3; trough++) {
+            CHECK.due("seed 0 without", without.trough(trough, 1), rains(30) ? 1 : 0);
+        }
         for (int seed : new int[] {0, 1, 5, 77, 4242, 99999}) {
             for (int odds : new int[] {1, 30, 50, 70, 99}) {
                 TroughTreaty x = Check.told("trough a 0 0 1;trough b 1 0 0;trough c 2 5 2;seed " + seed + ";rain " + odds + ";");
