@@ -201,6 +201,7 @@ public final class TroughTreaty {
         if (what < 0 || what >= LAWS || !plan.hasHorse(horse)) {
             return ERROR;
         }
+        // What was tried otherwise may have left each PACE twice as much.
         hours.asItGoes();
         return hours.worth(now, what, horse);
     }
@@ -291,7 +292,7 @@ public final class TroughTreaty {
         }
         for (int many = 0; many <= plan.troughs; many++) {
             for (int bits = 0; bits < 1 << plan.troughs; bits++) {
-                if (Integer.bitCount(bits) == many && foresight.noneFalls(bits, n)) {
+                if (Integer.bitCount(bits) == many && foresight.canHelp(bits) && foresight.noneFalls(bits, n)) {
                     return bits;
                 }
             }
@@ -984,12 +985,9 @@ public final class TroughTreaty {
                 return fail(TOLD_ALREADY);
             }
             int at = takeNumber(0, plan.length);
-            int water = takeNumber(0, WATER_MOST);
-            if (at == NONE || at > LENGTH_MOST || water == NONE) {
-                return false;
-            }
-            int fills = takeNumber(0, 9);
-            if (fills == NONE) {
+            int water = at == NONE ? NONE : takeNumber(0, WATER_MOST);
+            int fills = water == NONE ? NONE : takeNumber(0, 9);
+            if (fills == NONE || at >= plan.troughAt.length) {
                 return false;
             }
             plan.troughPlace[trough] = at;
@@ -1468,6 +1466,8 @@ public final class TroughTreaty {
         private final Hours hours;
         private final World trial = new World();
         private final World start = new World();
+        /** For each set of TROUGHS filled, those at which a HORSE was. */
+        private final int[] visited = new int[1 << TROUGHS_MOST];
 
         Foresight(Plan plan, World now, Hours hours) {
             this.plan = plan;
@@ -1549,6 +1549,21 @@ public final class TroughTreaty {
             return tellFights ? fewest : best;
         }
 
+        /**
+         * Whether these TROUGHS filled may do what fewer didn't: all goes as without one of them,
+         * if no HORSE came there before one fell. All sets of fewer have been tried ahead.
+         */
+        boolean canHelp(int filled) {
+            for (int trough = 0; trough < plan.troughs; trough++) {
+                int one = 1 << trough;
+                if ((filled & one) != 0 && (visited[filled ^ one] & one) == 0) {
+                    visited[filled] = visited[filled ^ one];
+                    return false;
+                }
+            }
+            return true;
+        }
+
         boolean noneFalls(int filled, int n) {
             beginTrial();
             for (int trough = 0; trough < plan.troughs; trough++) {
@@ -1556,10 +1571,24 @@ public final class TroughTreaty {
                     trial.water[trough] = WATER_MOST;
                 }
             }
+            visited[filled] = 0;
             for (int hour = 0; hour < n && trial.on == now.on; hour++) {
                 hours.pass(trial, 1);
+                visited[filled] |= troughsOf(now.on);
             }
             return trial.on == now.on;
+        }
+
+        /** TROUGHS (bits) at which these HORSES are in the trial. */
+        private int troughsOf(int horses) {
+            int bits = 0;
+            for (int horse = 0; horse < plan.horses; horse++) {
+                int trough = plan.troughThere(trial.place[horse]);
+                if ((horses & 1 << horse) != 0 && trough != NONE) {
+                    bits |= 1 << trough;
+                }
+            }
+            return bits;
         }
 
         int fightsOtherwise(int what, int horse, int n) {
