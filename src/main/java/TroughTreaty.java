@@ -732,7 +732,8 @@ public final class TroughTreaty {
 
         /** Asked ahead of multiplying: two values at the limit would leave the longs. */
         private static boolean isTooBig(long left, long right) {
-            return left != 0 && Math.abs(right) > VALUE_MOST / Math.abs(left);
+            long size = left < 0 ? -left : left;
+            return size != 0 && (right < 0 ? -right : right) > VALUE_MOST / size;
         }
 
         private static long within(long value) {
