@@ -2,22 +2,60 @@ import java.nio.charset.StandardCharsets;
 import java.util.ArrayList;
 import java.util.List;
 import java.util.NoSuchElementException;
+import java.util.function.Supplier;
+import java.util.function.ToLongFunction;
 
 /** What all tests of the project share: answers that are due, and texts fed as numbers. */
 final class Check {
     private int asked = 0;
     private int wrong = 0;
+    private String sentence = "";
+
+    /** The sentence of the document that the answers from here on are about. */
+    void about(String sentence) {
+        this.sentence = sentence + " | ";
+    }
 
     void due(String call, long got, long want) {
         asked++;
         if (got != want) {
             wrong++;
-            System.out.println(call + " answered " + got + ", due is " + want);
+            System.out.println(sentence + call + " answered " + got + ", due is " + want);
         }
     }
 
     void due(String call, boolean got, boolean want) {
         due(call, got ? 1 : 0, want ? 1 : 0);
+    }
+
+    /**
+     * A call that leaves all as it was: what it answers, and that behind it a new object of the
+     * scene shows what another one shows without it.
+     */
+    void leavesAll(Supplier<TroughTreaty> scene, String call, ToLongFunction<TroughTreaty> asked, long want) {
+        TroughTreaty x = scene.get();
+        due(call, asked.applyAsLong(x), want);
+        String without = Picture.of(scene.get());
+        String with = Picture.of(x);
+        due(call + " leaves all as it was, up to " + Picture.firstUnlike(without, with), without.equals(with), true);
+    }
+
+    /** A text with a FAULT; '@' marks its place and is left out. */
+    void fault(int kind, String marked) {
+        int place = marked.indexOf('@');
+        String text = marked.substring(0, place) + marked.substring(place + 1);
+        TroughTreaty x = new TroughTreaty();
+        due(marked, text(x, text), -1);
+        due(marked + " its kind", x.fault(0), kind);
+        due(marked + " its place", x.fault(1), place);
+    }
+
+    /** A text without a FAULT: how many LINES. */
+    void fine(int lines, String text) {
+        TroughTreaty x = new TroughTreaty();
+        due(text, text(x, text), lines);
+        due(text + " its FAULT", x.fault(0), 0);
+        due(text + " its place", x.fault(1), -1);
     }
 
     /** Ends the program, with 1 if an answer was wrong. */

@@ -17,18 +17,12 @@ public final class FaultTest {
         CHECK.end();
     }
 
-    /** A text with a FAULT; '@' marks its place and is left out. */
     private static void fault(int kind, String marked) {
-        int place = marked.indexOf('@');
-        String text = marked.substring(0, place) + marked.substring(place + 1);
-        TroughTreaty x = new TroughTreaty();
-        CHECK.due(marked, Check.text(x, text), -1);
-        CHECK.due(marked + " its kind", x.fault(0), kind);
-        CHECK.due(marked + " its place", x.fault(1), place);
+        CHECK.fault(kind, marked);
     }
 
     private static void fine(int lines, String text) {
-        CHECK.due(text, Check.text(new TroughTreaty(), text), lines);
+        CHECK.fine(lines, text);
     }
 
     private static void tokens() {
