@@ -15,6 +15,7 @@ public final class EdgeAheadTest {
         nextFightRefused();
         sendInZeroToTwenty();
         sendInFortyHours();
+        sendInAsItGoes();
         sendInAheadOfLaps();
         sendInFirstOfSeveral();
         sendInRefused();
@@ -206,6 +207,27 @@ public final class EdgeAheadTest {
         CHECK.due("FIGHTS so far don't count", x.sendIn(0, 0, 1), 40);
     }
 
+    private static void sendInAsItGoes() {
+        CHECK.about("16: as it goes");
+        // As it goes there is WATER for HOURS 10 .. 18, and so they TALK then.
+        String text = "road 10;trough p 5 0 9;horse a 0 5 9 1;horse b 1 5 0 1;seed 5;law gulp 1;law dry 0;law fight 0;rain ";
+        for (int what = 0; what <= 4; what++) {
+            TroughTreaty x = Check.told(text + "50;");
+            x.tried(what, 0, 1);
+            CHECK.due("rain 50 behind tried(" + what + ")", x.sendIn(0, 0, 1), 31);
+            x.chance(5, 50, 0, 0);
+            CHECK.due("rain 50 behind chance()", x.sendIn(0, 0, 1), 31);
+        }
+        CHECK.due("rain 49", Check.told(text + "49;").sendIn(0, 0, 1), 40);
+        // FIGHTS so far, and fewer the later b is sent.
+        TroughTreaty so = Check.told("road 10;trough p 5 0 0;horse a 0 5 0 1;horse b 1 5 0 5;law dry 0;law fight 0;");
+        so.go(9);
+        so.lead(1, 0);
+        CHECK.due("FIGHTS so far", so.count(6), 9);
+        CHECK.due("as late as may be", so.sendIn(1, 0, 0), 20);
+        CHECK.due("FIGHTS then", so.sendIn(1, 0, 1), 20);
+    }
+
     private static void sendInAheadOfLaps() {
         CHECK.about("16: (ahead of (1) of that HOUR)");
         TroughTreaty x = Check.told("road 10;trough p 5 0 0;trough q 0 0 0;horse a 0 5 0 1;horse b 1 0 0 5;lap b q 7;law dry 0;law fight 0;");
@@ -233,6 +255,8 @@ public final class EdgeAheadTest {
         for (int bad : new int[] {-1, 2, MIN, MAX}) {
             CHECK.leavesAll(Scenes::busy, "sendIn(0, " + bad + ", 0)", x -> x.sendIn(0, bad, 0), -1);
             CHECK.leavesAll(Scenes::busy, "sendIn(0, 0, " + bad + ")", x -> x.sendIn(0, 0, bad), -1);
+            CHECK.leavesAll(Scenes::busy, "sendIn(2, " + bad + ", 0) of one that FELL", x -> x.sendIn(2, bad, 0), -1);
+            CHECK.leavesAll(Scenes::busy, "sendIn(2, 0, " + bad + ") of one that FELL", x -> x.sendIn(2, 0, bad), -1);
         }
         CHECK.due("the last TROUGH", Scenes.busy().sendIn(0, 1, 0) >= 0, true);
     }
@@ -265,6 +289,16 @@ public final class EdgeAheadTest {
         // c by itself is fewer than a and b, though its bit is more.
         String three = "trough a 5 0 0;trough b 9 0 0;trough c 7 0 0;horse h 0 5 97 2;horse k 0 9 97 2;lap h c 1;lap k c 1;";
         CHECK.due("4 ahead of 3", Check.told(three).pump(10), 4);
+        // It needs a, then c, then b, and comes to each only by the one ahead.
+        String along = "trough a 0 0 0;trough b 2 0 0;trough c 1 0 0;horse h 0 0 50 1;lap h b 1;law dry 95;law gulp 99;";
+        int[] needed = {1, 5, 7, -2};
+        for (int n = 1; n <= 4; n++) {
+            CHECK.due("along: pump(" + n + ")", Check.told(along).pump(n), needed[n - 1]);
+        }
+        TroughTreaty again = Check.told(along);
+        for (int n = 4; n >= 1; n--) {
+            CHECK.due("again: pump(" + n + ")", again.pump(n), needed[n - 1]);
+        }
         String all = "";
         for (int i = 0; i < 6; i++) {
             all += "trough " + (char) ('a' + i) + " " + i + " 0 0;horse " + (char) ('a' + i) + " 0 " + i + " 9" + (9 - i) + " 1;";
@@ -455,6 +489,10 @@ public final class EdgeAheadTest {
         CHECK.due("18 in one HOUR", far.tried(4, 0, 3), 3);
         TroughTreaty farther = Check.told("trough a 19 0 0;horse h 0 19 0 1;horse k 1 0 0 9;lap k a 0;law fight 0;");
         CHECK.due("19 in two HOURS", farther.tried(4, 0, 3), 2);
+        TroughTreaty named = Check.told("horse h 0 5 0 3;horse k 1 5 0 3;law dry pace;law fight 0;");
+        CHECK.due("THIRST is 100 by 6 each in HOUR 16", named.tried(4, 0, 40), 17);
+        CHECK.due("then it is as told: law", named.law(0, 0), 3);
+        CHECK.due("then it is as told: ahead", named.ahead(40, 0, 0), 34);
     }
 
     private static void triedHours() {

@@ -127,7 +127,7 @@ public final class EdgeDeedTest {
         CHECK.about("8: Long.MIN_VALUE: no such law");
         CHECK.leavesAll(Scenes::busy, "law(2, 0), which isn't told", x -> x.law(2, 0), ERROR);
         CHECK.due("law(0, 0)", Scenes.busy().law(0, 0), 1);
-        CHECK.due("law(1, 2)", Scenes.busy().law(1, 2), 7);
+        CHECK.due("law(1, 2)", Scenes.busy().law(1, 2), 6);
         CHECK.about("8: Long.MIN_VALUE: no such ones");
         TroughTreaty x = Check.told("horse h 0 1 1 1;horse k 0 1 1 1;law dry 5;law gulp 6;law fight 7;");
         long[] worths = {ERROR, 5, 6, 7, ERROR};
@@ -359,12 +359,33 @@ public final class EdgeDeedTest {
             CHECK.due("no more", x.undo(), -1);
             CHECK.due("what stays of " + deeds, x.trough(1, 1), deeds - can);
         }
+        for (int deeds = 19; deeds <= 27; deeds++) {
+            TroughTreaty all = mixed(deeds);
+            for (int i = 0; i < 20; i++) {
+                all.undo();
+            }
+            String stays = Picture.ofWorld(mixed(Math.max(0, deeds - 20)));
+            CHECK.due("what stays of " + deeds + " mixed ones", Picture.ofWorld(all).equals(stays), true);
+        }
         TroughTreaty x = Scenes.full();
         x.undo();
         x.fill(0, 1);
         CHECK.due("20 again", x.count(13), 20);
         x.undo();
         CHECK.due("PLACE behind the 19th", x.horse(0, 1), 18);
+    }
+
+    /** So many deeds of all kinds, no two of which change the same thing to the same. */
+    private static TroughTreaty mixed(int deeds) {
+        TroughTreaty x = six();
+        for (int i = 0; i < deeds; i++) {
+            switch (i % 3) {
+                case 0: x.lead(i % 6, 20 + i); break;
+                case 1: x.fill(i % 5, 1 + i % 7); break;
+                default: x.send(i % 6, (i + i / 6) % 6); break;
+            }
+        }
+        return x;
     }
 
     private static void undoNone() {
@@ -443,6 +464,21 @@ public final class EdgeDeedTest {
         rain.back();
         rain.go(100);
         CHECK.due("the numbers, too", Picture.ofWorld(rain).equals(later), true);
+        backToPeace();
+    }
+
+    /** h and k TALK in HOUR 0, as h drinks, and FIGHT from HOUR 1 on. */
+    private static void backToPeace() {
+        for (int hour = 0; hour < 5; hour++) {
+            TroughTreaty x = Check.told("trough a 5 9 0;horse h 0 5 9 1;horse k 1 5 0 1;law dry 0;law fight 40;");
+            x.go(hour);
+            String shown = Picture.ofWorld(x);
+            x.keep();
+            x.go(2);
+            CHECK.due("back", x.back(), hour);
+            CHECK.due("PEACE, HURT, DRANK of HOUR " + hour, Picture.ofWorld(x).equals(shown), true);
+            CHECK.due("ON of HOUR " + hour, x.count(8), hour < 4 ? 2 : 0);
+        }
     }
 
     private static void backNone() {
@@ -484,7 +520,7 @@ public final class EdgeDeedTest {
     private static void countWhats() {
         CHECK.about("43: 0 TROUGHS .. 13 what can be undone");
         // h and k drink all 40 in four HOURS in which they TALK; then they FIGHT three times.
-        int[] wanted = {2, 3, 1, 30, 2, 7, 3, 4, 2, 20, 40, 5, 4, 3};
+        int[] wanted = {2, 3, 1, 30, 4, 7, 3, 4, 2, 20, 40, 5, 4, 3};
         TroughTreaty x = Scenes.busy();
         for (int what = 0; what <= 13; what++) {
             CHECK.due("count(" + what + ")", x.count(what), wanted[what]);
@@ -495,6 +531,7 @@ public final class EdgeDeedTest {
         CHECK.due("by all", Scenes.full().count(12), 24);
         CHECK.due("20 deeds", Scenes.full().count(13), 20);
         CHECK.due("WATER in six", six().count(9), 119);
+        CHECK.due("WATER in the first alone", Check.told("trough a 5 7 0;trough b 6 0 0;").count(9), 7);
     }
 
     private static void countOtherWhat() {

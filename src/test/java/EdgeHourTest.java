@@ -221,6 +221,8 @@ public final class EdgeHourTest {
         CHECK.due("2 to the 32 and 5", hurt("law fight 4096 * 4096 * 256 + 5;"), 99);
         CHECK.due("without", hurt(""), 1);
         CHECK.due("an ERROR", hurt("law fight 1 / 0;"), 1);
+        CHECK.due("without: the first of both", gone("horse h 0 5 0 1;horse k 1 5 0 1;", 1).horse(0, 5), 1);
+        CHECK.due("an ERROR: the first of both", gone("horse h 0 5 0 1;horse k 1 5 0 1;law fight 1 / 0;", 1).horse(0, 5), 1);
         TroughTreaty x = gone("horse h 0 5 0 1;horse k 3 5 0 1;law fight side;", 1);
         CHECK.due("of it: SIDE 0", x.horse(0, 5), 0);
         CHECK.due("of it: SIDE 3", x.horse(1, 5), 3);
@@ -279,16 +281,18 @@ public final class EdgeHourTest {
     private static void belowRain() {
         CHECK.about("(6) if a number modulo 100 is below rain");
         int tried = 0;
-        for (int seed = 0; seed < 40; seed++) {
+        boolean[] met = new boolean[100];
+        for (int seed = 0; seed < 5000 && tried < 100; seed++) {
             int number = numbers(seed, 1)[0];
-            if (number > 0 && number < 99) {
+            if (!met[number]) {
                 String text = "trough a 5 0 1;seed " + seed + ";rain ";
-                CHECK.due("as much", gone(text + number + ";", 10).trough(0, 1), 0);
-                CHECK.due("below", gone(text + (number + 1) + ";", 10).trough(0, 1), 1);
+                CHECK.due(number + ": as much", gone(text + number + ";", 10).trough(0, 1), 0);
+                CHECK.due(number + ": below", gone(text + (number + 1) + ";", 10).trough(0, 1), 1);
+                met[number] = true;
                 tried++;
             }
         }
-        CHECK.due("tried", tried > 20, true);
+        CHECK.due("each number modulo 100", tried, 100);
         CHECK.about("(6) rain is 0: never; at 100 always");
         for (int seed = 0; seed < 100; seed += 7) {
             CHECK.due("0", gone("trough a 5 0 1;rain 0;seed " + seed + ";", 200).trough(0, 1), 0);
@@ -333,6 +337,11 @@ public final class EdgeHourTest {
             CHECK.due("rain " + odds, x.ahead(10, 3, 0), odds >= 50 ? 1 : 0);
             CHECK.due("rain " + odds + " for long", x.ahead(200, 3, 0), odds >= 50 ? 20 : 0);
         }
+        CHECK.about("AS IT GOES: without numbers");
+        for (int seed = 0; seed < 200; seed++) {
+            CHECK.due("rain 49", Check.told("trough a 5 0 1;rain 49;seed " + seed + ";").ahead(200, 3, 0), 0);
+            CHECK.due("rain 50", Check.told("trough a 5 0 1;rain 50;seed " + seed + ";").ahead(200, 3, 0), 20);
+        }
     }
 
     private static void namesWithout() {
@@ -368,6 +377,10 @@ public final class EdgeHourTest {
             x.go(200);
         }
         CHECK.due("hour 9000", x.law(2, 0), 9000);
+        Check.text(x, "horse h 0 5 0 1;horse k 1 5 0 1;law fight 33;law dry 100 * hurt + hour;");
+        CHECK.due("hurt 0", x.law(0, 0), 0);
+        x.go(3);
+        CHECK.due("hurt 99", x.law(0, 0), 9903);
         Check.text(x, "horse h 0 5 99 1;law dry 99;law gulp thirst;");
         x.go(1);
         CHECK.due("thirst of one that FELL", x.law(1, 0), 198);
@@ -467,5 +480,24 @@ public final class EdgeHourTest {
         worth("not 2", 0);
         worth("not (0 - 1)", 0);
         worth("(not not 7) + (2 and 4)", 2);
+        CHECK.about("E: A { or A }. A: B { and B }. B: not B | C. C: S [ sign S ]. S: T { + T }. T: P { * P }");
+        worth("1 or 0 and 0", 1);
+        worth("(1 or 0) and 0", 0);
+        worth("0 and 0 or 1", 1);
+        worth("0 and (0 or 1)", 0);
+        worth("not 0 and 0", 0);
+        worth("not (0 and 0)", 1);
+        worth("not 1 = 2", 1);
+        worth("(not 1) = 2", 0);
+        worth("1 + 1 = 2", 1);
+        worth("1 + (1 = 2)", 1);
+        worth("2 + 3 * 4", 14);
+        worth("(2 + 3) * 4", 20);
+        worth("9 - 4 - 3", 2);
+        worth("9 - (4 - 3)", 8);
+        worth("100 / 5 / 2", 10);
+        worth("100 / (5 / 2)", 50);
+        worth("7 / 2 * 2", 6);
+        worth("7 * 2 / 2", 7);
     }
 }

@@ -339,6 +339,41 @@ public final class EdgeRoadTest {
         x.go(1);
         CHECK.due("it was war once", x.peace(0, 3), 0);
         CHECK.due("TALKED behind it", x.count(7), 3);
+        CHECK.about("25: PEACE of two SIDES: of these two alone");
+        for (int one = 0; one < 4; one++) {
+            for (int other = 0; other < 4; other++) {
+                if (one != other) {
+                    ofThese(one, other);
+                }
+            }
+        }
+    }
+
+    /** Two TALK in HOUR 0: they have PEACE, and no other two. */
+    private static void ofThese(int one, int other) {
+        TroughTreaty x = Check.told("trough a 5 1 0;horse h " + one + " 5 9 1;horse k " + other + " 5 0 1;law dry 0;");
+        x.go(1);
+        for (int a = 0; a < 4; a++) {
+            for (int b = 0; b < 4; b++) {
+                boolean these = a == one && b == other || a == other && b == one;
+                CHECK.due(one + ", " + other + ": peace(" + a + ", " + b + ")", x.peace(a, b), a == b ? -1 : these ? 1 : 0);
+            }
+        }
+        // A FIGHT of two other SIDES leaves it.
+        int third = thirdOf(one, other);
+        TroughTreaty y = Check.told("trough a 5 1 0;horse h " + one + " 5 9 1;horse k " + other + " 5 0 1;"
+                + "horse m " + third + " 7 0 1;horse n " + one + " 7 0 1;law dry 0;");
+        y.go(1);
+        CHECK.due("peace(" + one + ", " + other + ")", y.peace(one, other), 1);
+        CHECK.due("peace(" + one + ", " + third + ")", y.peace(one, third), 0);
+    }
+
+    private static int thirdOf(int one, int other) {
+        int third = 0;
+        while (third == one || third == other) {
+            third++;
+        }
+        return third;
     }
 
     private static void peaceRefused() {

@@ -151,6 +151,14 @@ public final class EdgeTapeTest {
         CHECK.due("undo", each.undo(), -1);
         each.see(1, 0, 99, true);
         CHECK.due("all KNOWN", each.thirsts(0), 0);
+        Check.text(each, "trough a 5 9 1;horse h 0 5 9 1;horse k 1 5 0 1;");
+        each.go(1);
+        CHECK.due("DRANK", each.horse(0, 7), 9);
+        CHECK.due("PEACE: in this TEXT they never FOUGHT", each.peace(0, 1), 1);
+        Check.text(each, "horse h 0 5 9 1;horse k 1 5 0 1;");
+        CHECK.due("DRANK 0 at first", each.horse(0, 7), 0);
+        CHECK.due("PEACE: in this TEXT they never TALKED", each.peace(0, 1), 0);
+        Check.text(each, "road 9;rain 60;seed 99;law dry 5;law gulp 5;law fight 5;");
         Check.text(each, "");
         CHECK.due("without LINES", Picture.of(each).equals(Picture.of(new TroughTreaty())), true);
     }
@@ -162,6 +170,10 @@ public final class EdgeTapeTest {
         x.go(10);
         Check.text(x, text);
         CHECK.due("text", Picture.of(x).equals(Picture.of(Check.told(text))), true);
+        x = Check.told("rain 77;seed 12;");
+        text = "trough a 0 0 1;trough b 1 0 1;rain 50;";
+        Check.text(x, text);
+        CHECK.due("no seed told", Picture.of(x).equals(Picture.of(Check.told(text))), true);
     }
 
     private static TroughTreaty faulty(String text) {

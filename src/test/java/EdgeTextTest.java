@@ -176,6 +176,8 @@ public final class EdgeTextTest {
             CHECK.fine(1, "law dry 1 " + sign + " 2;");
             CHECK.fault(1, "law dry 1 " + sign + " 2 @" + sign + " 3;");
             CHECK.fault(1, "law dry 1 + 1 " + sign + " 2 * 2 @" + sign + " 3;");
+            CHECK.fault(1, "law dry 1 " + sign + " 2 + 2 @" + sign + " 3;");
+            CHECK.fault(1, "law dry not 1 " + sign + " 2 - 2 @" + sign + " 3;");
             CHECK.fine(1, "law dry (1 " + sign + " 2) " + sign + " 3;");
             CHECK.fine(1, "law dry 1 " + sign + " 2 and 2 " + sign + " 3;");
         }
@@ -433,8 +435,21 @@ public final class EdgeTextTest {
         CHECK.due("64", Check.told("law dry " + sixtyThree + ";law gulp 1;").count(4), 64);
         CHECK.fault(2, "law dry " + sixtyThree + ";law gulp 1;law fight @1;");
         CHECK.fault(2, "law dry 1;law gulp 1;law fight " + "1+".repeat(31) + "@1;");
-        TroughTreaty x = Check.told("law dry not " + sixtyThree + ";");
-        CHECK.due("a TEXT anew counts from 0 on", Check.text(x, "law dry not " + sixtyThree + ";"), 1);
+        worth("not " + sixtyThree, 0);
+        worth("1 - (" + sixtyThree.substring(2) + ")", -30);
+        // As many as can wait for their right side: 63 not in eight '('.
+        worth("((((((((" + "not ".repeat(63) + "1))))))))", 0);
+        TroughTreaty x = new TroughTreaty();
+        for (int i = 0; i < 5; i++) {
+            CHECK.due("a TEXT anew", Check.text(x, "horse h 0 1 1 1;law dry not " + sixtyThree + ";"), 2);
+            CHECK.due("64 again", x.count(4), 64);
+            CHECK.due("its E", x.law(0, 0), 0);
+            CHECK.due("a FAULT", Check.text(x, "law dry 1 + (2 * (not "), -1);
+        }
+        CHECK.due("a TEXT behind a FAULT", Check.text(x, "horse h 0 1 1 1;law dry 1 + 1;law gulp 5;law fight (7);"), 4);
+        CHECK.due("dry", x.law(0, 0), 2);
+        CHECK.due("gulp", x.law(1, 0), 5);
+        CHECK.due("fight", x.law(2, 0), 7);
     }
 
     private static void knotsOfEachKind() {

@@ -17,6 +17,7 @@ final class Picture {
         Picture picture = new Picture(x);
         picture.standing();
         picture.laws();
+        picture.ahead();
         picture.seen();
         picture.undone();
         picture.hoursToCome();
@@ -83,6 +84,12 @@ final class Picture {
             }
         }
         show("dry", x.staysDry(1, 0));
+    }
+
+    private void ahead() {
+        for (int what = 0; what <= 4; what++) {
+            show("ahead" + what, x.ahead(30, what, 0));
+        }
     }
 
     private void seen() {

@@ -1,7 +1,7 @@
 /** Objects in the midst of their use, for calls that must leave all as it was. */
 final class Scenes {
     static final String TEXT = "road 30;trough a 5 40 3;trough b 12 0 7;horse h 0 5 30 2;horse k 1 5 10 1;horse m 2 20 99 3;"
-            + "lap h b 12;rain 40;seed 8;law dry 1;law gulp 7;";
+            + "lap h b 12;rain 40;seed 8;law dry 1;law gulp 9 - pace;";
 
     private Scenes() {
     }
