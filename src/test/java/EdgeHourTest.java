@@ -480,6 +480,10 @@ public final class EdgeHourTest {
         worth("not 2", 0);
         worth("not (0 - 1)", 0);
         worth("(not not 7) + (2 and 4)", 2);
+        worth("1 and not 0", 1);
+        worth("1 and not 1", 0);
+        worth("5 + (not 0)", 6);
+        worth("5 * (6 - (not 7))", 30);
         CHECK.about("E: A { or A }. A: B { and B }. B: not B | C. C: S [ sign S ]. S: T { + T }. T: P { * P }");
         worth("1 or 0 and 0", 1);
         worth("(1 or 0) and 0", 0);

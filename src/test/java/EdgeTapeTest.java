@@ -107,6 +107,17 @@ public final class EdgeTapeTest {
         TroughTreaty x = new TroughTreaty();
         Check.feed(x, "road 55;".getBytes());
         CHECK.due("in the midst of a number", x.text(6), -1);
+        CHECK.due("its place", x.fault(1), 6);
+        Check.feed(x, "roads 5;".getBytes());
+        CHECK.due("in the midst of a word", x.text(4), -1);
+        CHECK.due("more must come", x.fault(1), 4);
+        Check.feed(x, "law dry 1".getBytes());
+        CHECK.due("a number at the end", x.text(9), -1);
+        CHECK.due("more must come", x.fault(1), 9);
+        Check.feed(x, "road 123;".getBytes());
+        CHECK.due("road 12", x.text(7), -1);
+        CHECK.due("12 is a LENGTH", x.fault(0), 1);
+        CHECK.due("more must come", x.fault(1), 7);
         Check.feed(x, "road 5;9;".getBytes());
         CHECK.due("what comes behind isn't looked at", x.text(7), 1);
         CHECK.due("LENGTH", x.count(3), 5);

@@ -386,16 +386,14 @@ public final class EdgeTextTest {
             lines += part.endsWith(";") ? 1 : 0;
             TroughTreaty x = new TroughTreaty();
             Check.feed(x, text.getBytes(StandardCharsets.ISO_8859_1));
-            // A word that is cut is another word, and may be a FAULT at its own place.
-            boolean cutWord = n > 0 && n < text.length() && isLetter(text.charAt(n - 1)) && isLetter(text.charAt(n));
-            int answer = x.text(n);
-            if (cutWord) {
-                CHECK.due("text(" + n + ") of " + part, answer, -1);
-                continue;
-            }
-            CHECK.due("text(" + n + ") of " + part, answer, whole ? lines : -1);
+            CHECK.due("text(" + n + ") of " + part, x.text(n), whole ? lines : -1);
             CHECK.due("its FAULT", x.fault(0), whole ? 0 : 1);
-            CHECK.due("its place", x.fault(1), whole ? -1 : n);
+            // A word that is cut is another word, none of the language, and so a FAULT where it starts.
+            int place = n;
+            while (n < text.length() && isLetter(text.charAt(n)) && place > 0 && isLetter(text.charAt(place - 1))) {
+                place--;
+            }
+            CHECK.due("its place", x.fault(1), whole ? -1 : place);
         }
         CHECK.fault(1, "road @");
         CHECK.fault(1, "road 5 \n @");
