@@ -61,6 +61,7 @@ public final class FaceTest {
         face();
         members();
         source();
+        lengths();
         CHECK.end();
     }
 
@@ -86,6 +87,7 @@ public final class FaceTest {
         for (Field field : TroughTreaty.class.getDeclaredFields()) {
             boolean shown = field.getName().equals("NONE");
             CHECK.due(field + " is private", Modifier.isPrivate(field.getModifiers()), !shown);
+            CHECK.due(field + " is no static state", Modifier.isStatic(field.getModifiers()) && !Modifier.isFinal(field.getModifiers()), false);
         }
         int classes = 1;
         for (Class<?> inside : TroughTreaty.class.getDeclaredClasses()) {
@@ -117,5 +119,24 @@ public final class FaceTest {
                 CHECK.due(line, line.matches("import java\\.util\\.(Arrays|NoSuchElementException);"), true);
             }
         }
+    }
+
+    /** A method begins with a line that ends in ") {" or "throws .. {" and ends with a brace as far in. */
+    private static void lengths() throws Exception {
+        List<String> lines = Files.readAllLines(Path.of("src/main/java/TroughTreaty.java"));
+        Pattern start = Pattern.compile("( {4}| {8})(?!if|for|while|switch|do|else)\\w[^=;]*\\)( throws [\\w, ]+)? \\{");
+        int methods = 0;
+        for (int i = 0; i < lines.size(); i++) {
+            if (start.matcher(lines.get(i)).matches()) {
+                methods++;
+                String end = lines.get(i).replaceAll("\\w.*", "") + "}";
+                int to = i;
+                while (to < lines.size() && !lines.get(to).equals(end)) {
+                    to++;
+                }
+                CHECK.due(lines.get(i).strip() + " has sixty lines at most", to - i < 60, true);
+            }
+        }
+        CHECK.due("methods that were found", methods >= 42, true);
     }
 }
